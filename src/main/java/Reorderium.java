@@ -482,6 +482,14 @@ public final class Reorderium {
         return place == NONE || isPlace(place);
     }
 
+    private static int[] newLife() {
+        int[] parts = new int[PARTS_OF_LIFE];
+        for (int i = 0; i < PARTS_OF_LIFE; i++) {
+            parts[i] = NONE;
+        }
+        return parts;
+    }
+
     private static int indexOfReason(char reason) {
         for (int i = 0; i < REASONS.length(); i++) {
             if (REASONS.charAt(i) == reason) {
@@ -640,7 +648,7 @@ public final class Reorderium {
         final int guess;
         /** The stack of returns when this one had just been fetched; no change is ever made inside of it. */
         final int[] stack;
-        final int[] parts = new int[PARTS_OF_LIFE];
+        final int[] parts = newLife();
         char stage = IN_QUEUE;
         int innerA = NONE;
         int innerB = NONE;
@@ -660,9 +668,6 @@ public final class Reorderium {
             this.guess = guess;
             this.stack = stack;
             this.goesTo = what.goesBy(0, 0);
-            for (int i = 0; i < PARTS_OF_LIFE; i++) {
-                parts[i] = NONE;
-            }
         }
 
         boolean isEndedStore() {
@@ -754,7 +759,7 @@ public final class Reorderium {
                 trap = HANDLING_TRAP;
             }
             if (trap != 0) {
-                takeTrap(handler);
+                goToTraps(handler);
                 return trap;
             }
             int next = what.goesBy(x, y);
@@ -773,7 +778,7 @@ public final class Reorderium {
             return 0;
         }
 
-        private void takeTrap(int handler) {
+        private void goToTraps(int handler) {
             if (!handling && handler != NONE) {
                 keptPlace = place + 1;
                 handling = true;
@@ -781,7 +786,7 @@ public final class Reorderium {
             }
         }
 
-        void takeInterrupt(int handler) {
+        void goToInterrupts(int handler) {
             keptPlace = place;
             handling = true;
             place = handler;
@@ -874,7 +879,7 @@ public final class Reorderium {
             return false;
         }
 
-        void rename(Entry entry) {
+        void give(Entry entry) {
             Instruction what = entry.what;
             entry.innerA = map[what.a];
             entry.innerB = map[what.b];
@@ -889,7 +894,7 @@ public final class Reorderium {
             }
         }
 
-        void retire(Entry entry) {
+        void settle(Entry entry) {
             if (entry.innerD != NONE) {
                 retired[entry.what.d] = entry.innerD;
                 putBehind(entry.innerBefore);
@@ -1018,11 +1023,15 @@ public final class Reorderium {
                 case RETURN:
                     return stack.length == 0 ? next : pop();
                 case LEAP:
-                    int known = table[Math.floorMod(what.place, TABLE)];
-                    return known == NONE ? next : known;
+                    return guessLeap(what.place);
                 default:
                     return next;
             }
+        }
+
+        private int guessLeap(int from) {
+            int known = table[Math.floorMod(from, TABLE)];
+            return known == NONE ? from + 1 : known;
         }
 
         private void push(int newTop) {
@@ -1191,7 +1200,7 @@ public final class Reorderium {
                     return;
                 }
                 buffer.remove(0);
-                retire(oldest);
+                retireOldest(oldest);
                 retired++;
             }
             if (retired == 0) {
@@ -1219,7 +1228,7 @@ public final class Reorderium {
         }
 
         private void takeInterrupt() {
-            addEnd(INTERRUPT, place, new int[] {NONE, NONE, NONE, NONE, NONE});
+            addEnd(INTERRUPT, place, newLife());
             wantsInterrupt = false;
             handling = true;
             keptPlace = place;
@@ -1242,10 +1251,10 @@ public final class Reorderium {
             front.halted = stopped;
         }
 
-        private void retire(Entry entry) {
+        private void retireOldest(Entry entry) {
             Instruction what = entry.what;
             place = entry.goesTo;
-            inner.retire(entry);
+            inner.settle(entry);
             front.learn(entry);
             if (what.isStore() && isAddress(entry.address)) {
                 words[entry.address] = what.changedWord(words[entry.address], inner.valueOf(entry.innerB));
@@ -1262,7 +1271,7 @@ public final class Reorderium {
             int plainPlace = plain.place;
             int plainKind = INTERRUPT;
             if (kind == INTERRUPT) {
-                plain.takeInterrupt(settings.interrupts);
+                plain.goToInterrupts(settings.interrupts);
             } else {
                 plainKind = plain.doOne(program, settings.traps);
             }
@@ -1365,7 +1374,7 @@ public final class Reorderium {
                 }
                 Entry entry = front.line.get(0);
                 front.line.remove(0);
-                rename(entry);
+                renameFirst(entry);
             }
         }
 
@@ -1383,9 +1392,9 @@ public final class Reorderium {
             return buffer.isEmpty() || !what.standsAlone() && !buffer.get(0).what.standsAlone();
         }
 
-        private void rename(Entry entry) {
+        private void renameFirst(Entry entry) {
             Instruction what = entry.what;
-            inner.rename(entry);
+            inner.give(entry);
             entry.parts[RENAMED] = cycle;
             if (!what.isForQueue()) {
                 entry.trap = what.code == GO_BACK && !handling ? HANDLING_TRAP : what.trapBy(0, 0);
