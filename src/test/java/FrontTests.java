@@ -201,6 +201,12 @@ final class FrontTests {
         due.same("then the place to which it went", core.wrong(), 1);
         due.same("it goes round", core.placeAt(4), 1);
 
+        Reorderium first = Due.program(Due.i(17, 0, 1, 0, 0), Due.nothing(), Due.nothing());
+        first.setRegister(1, 2);
+        first.setWidth(1);
+        first.run(1);
+        due.same("the place 0: the next place is guessed", first.fetching(), 1);
+
         Reorderium shared = new Reorderium();
         shared.add(17, 0, 1, 0, 0);
         for (int i = 1; i < 8; i++) {

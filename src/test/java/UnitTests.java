@@ -18,6 +18,8 @@ final class UnitTests {
         takenLater();
         earlyLoads();
         earlyWaiting();
+        marked();
+        unitOfLoads();
         notEarly();
         wrongThrownAway();
         trapBehindTheWidth();
@@ -316,6 +318,53 @@ final class UnitTests {
         due.same("the next time", marked.placeAt(end + 2), 2);
         due.same("it begins when the store has ended",
                 marked.life(end + 2, 2) >= marked.life(end + 1, 3), true);
+    }
+
+    /** Two rounds: in the first one the load at 4 goes wrong, in the second one it waits for the store at 3 alone. */
+    private static void marked() {
+        Reorderium core = Due.program(Due.i(19, 0, 0, 0, 0), Due.i(5, 0, 6, 6, 0), Due.i(4, 5, 6, 6, 0),
+                Due.i(10, 0, 5, 7, 4), Due.i(9, 1, 6, 0, 4), Due.i(9, 2, 6, 0, 8), Due.i(14, 0, 0, 0, 0));
+        core.setRegister(7, 3);
+        core.setRegister(6, 1);
+        core.setWidth(4);
+        core.setQueue(8);
+        core.setTime(1, 1);
+        core.setTime(2, 1);
+        core.run(22);
+        due.same("early", core.early(), 1);
+        due.same("mark", core.isMarked(4), true);
+        due.same("the load in the first round", Due.life(core, 4), "8 9 10 12 12");
+        due.same("the load in the second round", Due.life(core, 11), "10 14 19 20 21");
+        due.same("the other one does not wait", Due.life(core, 12), "10 15 16 18 22");
+        due.same("taken", core.taken(), 1);
+        due.same("isSame", core.isSame(), true);
+    }
+
+    private static void unitOfLoads() {
+        Reorderium there = Due.program(Due.i(9, 0, 7, 0, 0), Due.i(19, 0, 0, 0, 0), Due.i(9, 1, 7, 0, 0),
+                Due.i(9, 2, 7, 0, 1), Due.stop());
+        there.setWidth(4);
+        Due.runOut(there);
+        due.same("a load of a line that is there", Due.life(there, 2), "1 10 11 13 13");
+        due.same("the next one, in the next cycle", Due.life(there, 3), "1 10 12 14 14");
+        due.same("hits", there.hits(), 1002L);
+
+        Reorderium taken = Due.program(Due.i(5, 0, 7, 7, 0), Due.i(10, 0, 6, 7, 5), Due.i(10, 0, 6, 7, 6),
+                Due.i(9, 1, 6, 0, 5), Due.i(9, 2, 6, 0, 6), Due.stop());
+        taken.setRegister(7, 3);
+        taken.setWidth(4);
+        Due.runOut(taken);
+        due.same("a load that takes a value", Due.life(taken, 3), "1 2 5 6 9");
+        due.same("the next one, in the next cycle", Due.life(taken, 4), "2 3 6 7 10");
+        due.same("taken", taken.taken(), 2);
+
+        Reorderium waits = Due.program(Due.i(5, 0, 7, 7, 0), Due.i(11, 0, 6, 7, 5), Due.i(9, 1, 6, 0, 5),
+                Due.i(9, 2, 6, 0, 20), Due.stop());
+        waits.setRegister(7, 3);
+        waits.setWidth(4);
+        Due.runOut(waits);
+        due.same("behind a load that cannot begin, another one does", waits.life(3, 2), 4);
+        due.same("and that one begins when it can", waits.life(2, 2), 9);
     }
 
     private static void earlyWaiting() {
