@@ -1,15 +1,23 @@
+import java.io.IOException;
+import java.lang.reflect.InvocationTargetException;
+import java.lang.reflect.Method;
+import java.nio.file.Files;
+import java.nio.file.Path;
+import java.util.Arrays;
+import java.util.Comparator;
 import java.util.Objects;
 
 /** Compares answers with those that are due, prints each that differs, and ends with exit code 1 if one did. */
 final class Due {
     private int wrong = 0;
     private int asked = 0;
+    private String where = "";
 
     void same(String what, Object got, Object due) {
         asked++;
         if (!Objects.equals(got, due)) {
             wrong++;
-            System.out.println(what + " answered " + got + ", due is " + due);
+            System.out.println(where + what + " answered " + got + ", due is " + due);
         }
     }
 
@@ -22,6 +30,52 @@ final class Due {
             got = thrown.getClass();
         }
         same(what + " threw", got, due);
+    }
+
+    /** Runs each static method of the class that tells which words it holds. */
+    void runAll(Class<?> tests) {
+        Method[] methods = tests.getDeclaredMethods();
+        Arrays.sort(methods, Comparator.comparing(Method::getName));
+        for (Method method : methods) {
+            Holds holds = method.getAnnotation(Holds.class);
+            if (holds != null) {
+                where = "promise " + holds.promise() + ", '" + holds.words() + "', " + method.getName() + ": ";
+                same("the document has these words", hasWords(holds.promise(), holds.words()), true);
+                runOne(method);
+            }
+        }
+        where = "";
+    }
+
+    private void runOne(Method method) {
+        int before = asked;
+        try {
+            method.setAccessible(true);
+            method.invoke(null);
+            same("it asks something", asked > before, true);
+        } catch (InvocationTargetException | IllegalAccessException failed) {
+            same("the test", String.valueOf(failed.getCause()), "goes through");
+        }
+    }
+
+    /** The words may stand in the section of the promise or in the terms, and be broken there by ends of lines. */
+    private static boolean hasWords(int promise, String words) {
+        String document = document();
+        int terms = document.indexOf("## Terms");
+        int first = document.indexOf("## Promise 1:");
+        int from = document.indexOf("## Promise " + promise + ":");
+        int to = document.indexOf("## ", from + 3);
+        return from >= 0 && to >= 0
+                && (document.substring(terms, first).contains(words) || document.substring(from, to).contains(words));
+    }
+
+    private static String document() {
+        try {
+            String text = Files.readString(Path.of(System.getProperty("document", "../shared/DOC.md")));
+            return text.replace("`", "").replaceAll("\\s+", " ");
+        } catch (IOException missing) {
+            return "";
+        }
     }
 
     void end() {
