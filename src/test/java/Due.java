@@ -63,10 +63,16 @@ final class Due {
         String document = document();
         int terms = document.indexOf("## Terms");
         int first = document.indexOf("## Promise 1:");
+        return terms >= 0 && first > terms
+                && (document.substring(terms, first).contains(words) || section(promise).contains(words));
+    }
+
+    /** What the document says below the heading of a promise. */
+    static String section(int promise) {
+        String document = document();
         int from = document.indexOf("## Promise " + promise + ":");
         int to = document.indexOf("## ", from + 3);
-        return from >= 0 && to >= 0
-                && (document.substring(terms, first).contains(words) || document.substring(from, to).contains(words));
+        return from >= 0 && to >= 0 ? document.substring(from, to) : "";
     }
 
     private static String document() {

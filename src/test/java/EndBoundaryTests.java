@@ -337,6 +337,24 @@ final class EndBoundaryTests {
         due.same("sixty more", core.cycle(), 61);
     }
 
+    @Holds(promise = 13, words = "and then the following six things are done in this order: answers, endings, retiring, "
+            + "beginnings, renaming, fetching.")
+    static void sixThingsInACycle() {
+        // In the cycle 9 the line comes, the load ends and retires, the sum begins, 4 is renamed, and 8 is fetched.
+        Reorderium core = Due.program(Due.i(9, 1, 0, 0, 0), Due.i(2, 2, 1, 1, 0));
+        for (int place = 2; place < 20; place++) {
+            core.add(0, 0, 0, 0, 0);
+        }
+        core.setBuffer(4);
+        core.run(8);
+        due.same("the buffer and the line are full", core.inBuffer() + " " + core.fetched() + " " + core.fetching(), "4 4 8");
+        core.run(11);
+        due.same("the load", Due.life(core, 0), "1 2 3 9 9");
+        due.same("the sum", core.life(1, 2), 9);
+        due.same("4", core.life(4, 1), 9);
+        due.same("8", core.life(8, 0), 9);
+    }
+
     @Holds(promise = 13, words = "When the core has stopped, no more cycles come.")
     static void noMoreCycles() {
         Reorderium core = Due.program(Due.nothing(), Due.stop());
@@ -361,6 +379,50 @@ final class EndBoundaryTests {
         due.same("their number", core.ends(), 5);
         due.same("the first one", core.kindAt(0), 9);
         due.same("the last one", core.placeAt(4), 1);
+    }
+
+    @Holds(promise = 17, words = "An end has a kind, 0 if an instruction retired, the number of the trap, or 9 for an interrupt, "
+            + "and a place, that of the instruction, or the kept one for an interrupt.")
+    static void kindsAndPlaces() {
+        int[][] traps = {{5, 1, 6, 6, 0}, {9, 1, 6, 6, 64}, {17, 1, 5, 6, 0}, {20, 1, 6, 6, 0}, {21, 1, 6, 6, 0}};
+        for (int kind = 1; kind <= 5; kind++) {
+            Reorderium core = Due.program(Due.nothing(), traps[kind - 1], Due.stop(), Due.nothing());
+            core.setRegister(5, 64);
+            core.setHandlers(3, 3);
+            core.run(30);
+            core.interrupt();
+            core.run(1);
+            due.same("the trap " + kind + ", and no interrupt behind it", Due.ends(core), "0@0 " + kind + "@1 0@3");
+        }
+        Reorderium asked = Due.program(Due.nothing(), Due.nothing());
+        asked.setHandlers(-1, 0);
+        asked.run(10);
+        asked.interrupt();
+        asked.run(1);
+        due.same("the kept place of an interrupt, where nothing is", Due.ends(asked) + " " + asked.kept(), "0@0 0@1 9@2 2");
+    }
+
+    @Holds(promise = 24, words = "21 goes to the place that is kept, and ends the handling")
+    static void goesBack() {
+        Reorderium core = Due.program(Due.i(14, 0, 0, 0, 2), Due.stop(), Due.i(20, 0, 0, 0, 0), Due.i(14, 0, 0, 0, 1),
+                Due.i(21, 0, 0, 0, 0));
+        core.setHandlers(4, -1);
+        Due.runOut(core);
+        due.same("to 3, behind the trap at 2", Due.ends(core), "0@0 4@2 0@4 0@3 0@1");
+        due.raises("nothing is handled", ELEMENT, core::kept);
+    }
+
+    @Holds(promise = 25, words = "An instruction that began in the cycle c with a delay ends in the cycle c plus the delay.")
+    static void delays() {
+        int[][] rows = {{1, 1}, {2, 1}, {3, 1}, {4, 3}, {5, 6}, {6, 1}, {7, 1}, {8, 1}, {10, 1}, {11, 1}, {12, 1}, {13, 1},
+            {16, 1}, {17, 1}};
+        for (int[] row : rows) {
+            Reorderium core = Due.program(Due.i(row[0], 1, 2, 2, 1), Due.stop());
+            core.setRegister(2, 1);
+            Due.runOut(core);
+            int ended = 3 + row[1];
+            due.same("code " + row[0], Due.life(core, 0), "1 2 3 " + ended + " " + ended);
+        }
     }
 
     private static void refusesEnds(String what, java.util.function.BiConsumer<Reorderium, Integer> call) {

@@ -212,6 +212,66 @@ final class FrontBoundaryTests {
         due.same("9 is fetched, and guesses 0", core.fetching(), 0);
     }
 
+    @Holds(promise = 37, words = "the table of a 17 gets the place to which it goes")
+    static void onlyOneThatRetiresIsInTheTable() {
+        // The 17 at 3 is thrown away by the 13; the 16 at 11 shares its row, but has no table.
+        Reorderium core = Due.program(Due.i(5, 1, 2, 2, 0), Due.i(13, 0, 3, 1, 11), Due.nothing(), Due.i(17, 0, 4, 0, 0));
+        for (int place = 4; place < 11; place++) {
+            core.add(18, 0, 0, 0, 0);
+        }
+        core.add(16, 0, 5, 0, 0);
+        core.add(14, 0, 0, 0, 3);
+        core.add(18, 0, 0, 0, 0);
+        core.setRegister(2, 1);
+        core.setRegister(4, 13);
+        core.setRegister(5, 12);
+        core.setWidth(1);
+        core.run(12);
+        due.same("the 17 has been wrong, and is thrown away", core.wrong() + " " + Due.ends(core), "2 0@0 0@1");
+        int cycles = 0;
+        while (core.ends() < 4 && cycles++ < 20) {
+            core.run(1);
+        }
+        due.same("the 14 goes to 3", Due.ends(core), "0@0 0@1 0@11 0@12");
+        due.same("the 17 is fetched again, and guesses its next place: a wrong one", core.wrong(), 2);
+        Due.runOut(core);
+        due.same("then it is told", Due.ends(core) + " " + core.wrong(), "0@0 0@1 0@11 0@12 0@3 0@13 3");
+    }
+
+    @Holds(promise = 37, words = "for 14 and 15, n")
+    static void guessesOfJumps() {
+        for (int code = 14; code <= 15; code++) {
+            for (int n : new int[] {0, 1, 63}) {
+                Reorderium core = Due.program(Due.i(code, 1, 0, 0, n), Due.nothing());
+                core.setWidth(1);
+                core.run(1);
+                due.same("n of " + code, core.fetching(), n);
+                core.run(3);
+                due.same("never wrong", core.wrong(), 0);
+            }
+        }
+    }
+
+    @Holds(promise = 37, words = "for all others, the next place.")
+    static void guessesOfOthers() {
+        for (int code : new int[] {0, 1, 2, 3, 4, 5, 6, 7, 8, 9, 10, 11, 19, 20}) {
+            Reorderium core = Due.program(Due.i(code, 1, 0, 0, 5), Due.nothing(), Due.nothing(), Due.nothing());
+            core.setWidth(4);
+            core.run(1);
+            due.same("code " + code, core.fetching() + " " + core.fetched(), "4 4");
+        }
+    }
+
+    @Holds(promise = 26, words = "The map tells for each register an inner one, at first that with the same number")
+    static void mapAtFirst() {
+        Reorderium core = new Reorderium();
+        for (int r = 0; r < 8; r++) {
+            due.same("register " + r, core.inner(r) + " " + core.innerAnew(r), r + " " + r);
+        }
+        core.setInner(10);
+        due.same("with 10", core.inner(0) + " " + core.inner(7), "0 7");
+    }
+
     @Holds(promise = 38, words = "A 15 puts its next place onto the stack of returns, which has at most 4; "
             + "the lowest one is lost if there would be more.")
     static void fullStackOfReturns() {

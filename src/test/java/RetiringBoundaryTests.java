@@ -41,6 +41,24 @@ final class RetiringBoundaryTests {
         due.same("when there is none", none.thrownAway() + " " + none.wrong() + " " + none.ends(), "0 1 1");
     }
 
+    @Holds(promise = 36, words = "What is thrown away leaves the line of fetched ones, the buffer, the queue and its unit")
+    static void leavesAll() {
+        // The 5 at 2 is in its delay, and the one at 3 in the queue, when the 12 goes wrong.
+        Reorderium core = wide(Due.i(12, 0, 0, 0, 8), Due.i(5, 1, 6, 6, 0), Due.i(5, 2, 6, 6, 0), Due.i(9, 3, 0, 0, 0),
+                Due.nothing(), Due.nothing(), Due.nothing(), Due.nothing(), Due.i(5, 4, 6, 6, 0), Due.i(9, 5, 0, 0, 0), Due.stop());
+        core.setRegister(6, 1);
+        core.run(3);
+        due.same("ahead of it", Due.buffer(core) + ", " + core.inQueue() + " " + core.fetched(), "0x 1x 2q 3m 4e 5e 6e 7e, 1 3");
+        core.run(1);
+        due.same("behind it", Due.buffer(core) + ", " + core.inQueue() + " " + core.fetched(), ", 0 3");
+        core.run(2);
+        due.same("the unit of the 5 is free", Due.buffer(core), "8x 9m 10e");
+        due.same("the line that was asked for is waited for", core.asked(), 1);
+        Due.runOut(core);
+        due.same("lives", Due.life(core, 1) + ", " + Due.life(core, 2), "4 5 6 12 12, 4 5 6 9 12");
+        due.same("hits", core.hits(), 1000L);
+    }
+
     @Holds(promise = 38, words = "the stack of returns is as it was when the instruction had just been fetched")
     static void stackBehindWrong() {
         // The fifth and the sixth call, behind the branch, lose the lowest ones; then both are there again.
